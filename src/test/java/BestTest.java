@@ -1,0 +1,195 @@
+/** Promises 16 to 21: best, few, hire, away, undone, pair. */
+final class BestTest {
+    public static void main(String[] args) {
+        bestSets();
+        fewest();
+        hiring();
+        lookingAway();
+        leavingUndone();
+        pairs();
+        Checks.finish("BestTest");
+    }
+
+    private static void bestSets() {
+        DrumOfGuilt x = Checks.people(0, 0, 0);
+        Checks.due("16 best: no wrongs: set", x.best(0, 0), 0);
+        Checks.due("16 best: no wrongs: how", x.best(0, 1), 500);
+        x.wrong(1, 2, 2);
+        x.wrong(2, 9, 5);
+        x.wrong(1, 2, 0);
+        x.wrong(1, 1, 2);
+        x.wrong(5, 3, 2);
+        // 1 saw three of 0's four wrongs (0, 3, 4); strokes are 2, 2, 1, 3; who catches doubts 2.
+        Checks.law(x, "weight", "2", "1");
+        Checks.due("16 best: nothing is as good as all that is caught", x.best(0, 0), 0);
+        Checks.due("16 best: how", x.best(0, 1), 498);
+        x.force(0);
+        // Each is 1 stroke now, who catches doubts 10: three strokes, of the sets of three the least.
+        Checks.due("16 best: three strokes", x.best(0, 0), Checks.bits(0, 2, 3));
+        Checks.due("16 best: three strokes, how", x.best(0, 1), 497);
+        Checks.law(x, "weight", "9", "1");
+        // Three strokes by 2 and 1, or by 3.
+        Checks.due("16 best: of like ones the least as bits", x.best(0, 0), Checks.bits(0, 3));
+        Checks.due("16 best: so", x.best(0, 1), 497);
+        Checks.due("16 best: only one's own", x.best(2, 0), 16);
+        Checks.due("16 best: that one's, how", x.best(2, 1), 497);
+        x.put(0, 1, 2);
+        Checks.due("16 best: all are thought of as 0", x.best(0, 0), 0);
+        Checks.due("16 best: 0", x.best(0, 1), 0);
+        Checks.due("16 best: nobody", x.best(3, 0), -5);
+        Checks.due("16 best: nobody is told first", x.best(-1, 2), -5);
+        Checks.due("16 best: what", x.best(0, 2), -7);
+        Checks.due("16 best: what below", x.best(0, -1), -7);
+    }
+
+    private static void fewest() {
+        DrumOfGuilt x = Checks.people(10, 0, 0);
+        Checks.due("17 few: no wrongs", x.few(0), 0);
+        x.wrong(1, 1, 0);
+        Checks.due("17 few: none seen", x.few(0), 0);
+        x.wrong(1, 1, 2);
+        x.wrong(1, 1, 4);
+        x.wrong(1, 1, 4);
+        x.wrong(3, 1, 4);
+        x.wrong(2, 1, 5);
+        Checks.due("17 few: by who saw most", x.few(0), 3);
+        Checks.due("17 few: another's", x.few(1), 2);
+        Checks.due("17 few: none of that one's", x.few(2), 0);
+        Checks.due("17 few: nobody", x.few(3), -5);
+        Checks.due("17 few: nobody below", x.few(-1), -5);
+    }
+
+    private static void hiring() {
+        DrumOfGuilt x = Checks.people(0);
+        Checks.due("18 hire: nobody else", x.hire(0, 0), -1);
+        Checks.due("18 hire: nobody else, how much", x.hire(0, 1), -1);
+        x = Checks.people(0, 42, 0);
+        Checks.due("18 hire: nothing to strike for", x.hire(0, 0), 1);
+        Checks.due("18 hire: for nothing", x.hire(0, 1), 0);
+        Checks.due("18 hire: the first is another one", x.hire(1, 0), 0);
+        x.wrong(1, 3, 0);
+        x.wrong(2, 9, 0);
+        x.wrong(3, 4, 0);
+        Checks.due("18 hire: a person", x.hire(0, 0), 2);
+        Checks.due("18 hire: that, for both", x.hire(0, 1), 7);
+        Checks.due("18 hire: of like ones the first", x.hire(1, 0), 0);
+        Checks.due("18 hire: 9 and 4", x.hire(1, 1), 13);
+        x = Checks.people(0, 42);
+        x.wrong(1, 3, 0);
+        x.wrong(1, 4, 0);
+        Checks.due("18 hire: a thief asks", x.hire(0, 1), 3 * 3 + 2 + 3 * 4 + 2);
+        x.person(20, 50);
+        Checks.due("18 hire: a banker asks", x.hire(0, 1), 7);
+        x.person(59, 50);
+        Checks.due("18 hire: an elder asks no less", x.hire(0, 0), 2);
+        x.person(19, 50);
+        Checks.due("18 hire: a child", x.hire(0, 0), 4);
+        Checks.due("18 hire: a child asks", x.hire(0, 1), 2);
+        x.person(39, 50);
+        Checks.due("18 hire: a saint asks no less", x.hire(0, 0), 4);
+        Checks.due("18 hire: a saint asks", x.hire(4, 1), 0);
+        x.wrong(16, 9, 0);
+        Checks.due("18 hire: a saint", x.hire(4, 0), 5);
+        Checks.due("18 hire: a saint asks 1", x.hire(4, 1), 1);
+        x = new DrumOfGuilt();
+        x.person(0, 1);
+        x.person(0, 9);
+        x.person(8, 5);
+        x.wrong(1, 1, 0);
+        Checks.law(x, "1", "1", "pride - more");
+        Checks.due("18 hire: what pays says of who asks", x.hire(0, 0), 2);
+        Checks.due("18 hire: bounded", x.hire(0, 1), 0);
+        Checks.due("18 hire: nobody", x.hire(3, 0), -5);
+        Checks.due("18 hire: nobody is told first", x.hire(-1, 2), -5);
+        Checks.due("18 hire: what", x.hire(0, 2), -7);
+        Checks.due("18 hire: what below", x.hire(0, -1), -7);
+    }
+
+    private static void lookingAway() {
+        DrumOfGuilt x = Checks.people(0, 0, 0);
+        Checks.due("19 away: no wrongs", x.away(0), -1);
+        Checks.due("19 away: as so", x.away(1), 1500);
+        x.wrong(1, 1, 2);
+        Checks.due("19 away: nobody is off", x.away(0), -1);
+        Checks.due("19 away: as so, one stroke less", x.away(1), 1499);
+        Checks.law(x, "0", "10", "1");
+        x.wrong(1, 1, 4);
+        x.wrong(2, 1, 4);
+        // 1 doubts 10 of 0; 2 doubts 10 of 0 and 10 of 1.
+        Checks.due("19 away: who should have seen none", x.away(0), 2);
+        Checks.due("19 away: that", x.away(1), 1500 - 10);
+        x.amend(2);
+        Checks.due("19 away: of like ones the first", x.away(0), 1);
+        Checks.due("19 away: that, 1 or 2", x.away(1), 1490);
+        Checks.due("19 away: what is asked changes nothing", x.deed(0, 2), 2);
+        x.amend(1);
+        x.amend(0);
+        x.wrong(1, 1, 4);
+        // The fewer saw it, the more is struck for it: none looks away then.
+        Checks.law(x, "5 - 5 * seen", "1", "1");
+        Checks.due("19 away: strokes may become more", x.away(0), -1);
+        Checks.due("19 away: as it is", x.away(1), 1499);
+        Checks.due("19 away: what", x.away(2), -2);
+        Checks.due("19 away: what below", x.away(-1), -2);
+    }
+
+    private static void leavingUndone() {
+        DrumOfGuilt x = Checks.people(0, 0, 0);
+        Checks.due("20 undone: no wrongs", x.undone(0), -1);
+        Checks.due("20 undone: as so", x.undone(1), 1500);
+        Checks.law(x, "weight", "10", "1");
+        x.wrong(1, 2, 0);
+        x.wrong(2, 5, 0);
+        x.wrong(4, 5, 0);
+        Checks.due("20 undone: of like ones the first", x.undone(0), 1);
+        Checks.due("20 undone: that", x.undone(1), 1500 - 2 - 5);
+        x.wrong(3, 4, 0);
+        Checks.due("20 undone: one that two did", x.undone(0), 3);
+        Checks.due("20 undone: that, 8 less struck", x.undone(1), 1500 - 12);
+        Checks.due("20 undone: what is asked changes nothing", x.count(1), 4);
+        x.amend(3);
+        x.amend(2);
+        x.amend(1);
+        x.amend(0);
+        Checks.law(x, "0", "10", "1");
+        x.wrong(1, 2, 0);
+        Checks.due("20 undone: none is better", x.undone(0), -1);
+        Checks.due("20 undone: as it is", x.undone(1), 1500);
+        x.wrong(1, 2, 6);
+        x.wrong(1, 2, 2);
+        Checks.due("20 undone: seen by two", x.undone(0), 1);
+        Checks.due("20 undone: so that one catches", x.undone(1), 1490);
+        Checks.due("20 undone: what", x.undone(2), -2);
+        Checks.due("20 undone: what below", x.undone(-1), -2);
+    }
+
+    private static void pairs() {
+        DrumOfGuilt x = new DrumOfGuilt();
+        Checks.due("21 pair: nobody", x.pair(0), -1);
+        x.person(0, 0);
+        Checks.due("21 pair: one", x.pair(0), -1);
+        Checks.due("21 pair: one, how many", x.pair(1), -1);
+        x.person(0, 0);
+        x.person(0, 0);
+        x.person(0, 0);
+        Checks.due("21 pair: none saw any: the first", x.pair(0), 1);
+        Checks.due("21 pair: none", x.pair(1), 0);
+        x.wrong(2, 1, 8);
+        Checks.due("21 pair: one of the other", x.pair(0), 13);
+        Checks.due("21 pair: 1", x.pair(1), 1);
+        x.wrong(4, 1, 8);
+        Checks.due("21 pair: of like ones the first", x.pair(0), 13);
+        x.wrong(8, 1, 5);
+        Checks.due("21 pair: each of the other", x.pair(0), 23);
+        Checks.due("21 pair: together", x.pair(1), 2);
+        x.wrong(7, 1, 8);
+        x.wrong(2, 1, 0);
+        Checks.due("21 pair: one of several doers", x.pair(0), 23);
+        Checks.due("21 pair: three", x.pair(1), 3);
+        x.wrong(1, 1, 8);
+        Checks.due("21 pair: three, too: the first", x.pair(0), 3);
+        Checks.due("21 pair: what", x.pair(2), -2);
+        Checks.due("21 pair: what below", x.pair(-1), -2);
+        Checks.due("21 pair: bad is told first", new DrumOfGuilt().pair(2), -2);
+    }
+}

@@ -1,0 +1,191 @@
+/** The kinds, and promises 13 to 15: dusk, town, night. */
+final class DuskTest {
+    public static void main(String[] args) {
+        strokesOfKinds();
+        doubtsOfKinds();
+        dusks();
+        doubtsOfTheLastSeen();
+        bounds();
+        towns();
+        nights();
+        Checks.finish("DuskTest");
+    }
+
+    /** One of each kind, and more 3, does a wrong of weight 4 alone. */
+    private static int beatsAlone(int kind, String strokes) {
+        DrumOfGuilt x = Checks.people(10 * kind + 3, 0);
+        x.wrong(1, 4, 0);
+        Checks.law(x, strokes, "1", "1");
+        return x.dusk(0, 0);
+    }
+
+    private static void strokesOfKinds() {
+        Checks.due("kinds: strokes of a person", beatsAlone(0, "7"), 7);
+        Checks.due("kinds: strokes of a child", beatsAlone(1, "7"), 10);
+        Checks.due("kinds: strokes of a banker", beatsAlone(2, "7"), 3);
+        Checks.due("kinds: strokes of a saint", beatsAlone(3, "7"), 20);
+        Checks.due("kinds: strokes of a thief", beatsAlone(4, "7"), 3);
+        Checks.due("kinds: strokes of an elder", beatsAlone(5, "7"), 1);
+        Checks.due("kinds: strokes of a person, bounded", beatsAlone(0, "99"), 20);
+        Checks.due("kinds: strokes of a child, above the bound", beatsAlone(1, "99"), 23);
+        Checks.due("kinds: strokes of a saint, above the bound", beatsAlone(3, "99"), 46);
+
+        DrumOfGuilt x = Checks.people(40, 54, 55);
+        x.wrong(3, 5, 0);
+        Checks.law(x, "8", "1", "1");
+        Checks.due("kinds: strokes of a thief among two", x.dusk(0, 0), 0);
+        Checks.due("kinds: strokes of an elder, weight above more", x.dusk(1, 0), 1);
+        x.amend(0);
+        x.wrong(4, 5, 0);
+        Checks.due("kinds: strokes of an elder, weight as more", x.dusk(2, 0), 0);
+        Checks.due("kinds: strokes for what another one did", x.dusk(1, 0), 0);
+    }
+
+    /** One does as many wrongs, all seen by one of each kind, and more 3. */
+    private static int lossBy(int kind, int wrongs, String doubts) {
+        DrumOfGuilt x = Checks.people(0, 10 * kind + 3);
+        for (int k = 0; k < wrongs; k++) {
+            x.wrong(1, 4, 2);
+        }
+        Checks.law(x, "0", doubts, "1");
+        return x.dusk(0, 2);
+    }
+
+    private static void doubtsOfKinds() {
+        Checks.due("kinds: a person doubts", lossBy(0, 1, "7"), 7);
+        Checks.due("kinds: a child doubts", lossBy(1, 1, "7"), 7);
+        Checks.due("kinds: a banker doubts, off 1", lossBy(2, 1, "7"), 0);
+        Checks.due("kinds: a banker doubts, off 2", lossBy(2, 2, "7"), 0);
+        Checks.due("kinds: a banker doubts, off 3", lossBy(2, 3, "7"), 7);
+        Checks.due("kinds: a saint doubts", lossBy(3, 1, "7"), 3);
+        Checks.due("kinds: a thief doubts, off 2", lossBy(4, 2, "7"), 0);
+        Checks.due("kinds: a thief doubts, off 3", lossBy(4, 3, "7"), 7);
+        Checks.due("kinds: an elder doubts, off 1", lossBy(5, 1, "7"), 8);
+        Checks.due("kinds: an elder doubts, off 3", lossBy(5, 3, "7"), 10);
+        Checks.due("kinds: an elder doubts, above the bound", lossBy(5, 4, "500"), 103);
+        Checks.due("kinds: a saint doubts, of the bound", lossBy(3, 4, "500"), 49);
+    }
+
+    private static void dusks() {
+        DrumOfGuilt x = Checks.people(0, 0, 0, 0);
+        Checks.due("13 dusk: no wrongs: beats", x.dusk(0, 0), 0);
+        Checks.due("13 dusk: no wrongs: who catch", x.dusk(0, 1), 0);
+        Checks.due("13 dusk: no wrongs: loss", x.dusk(0, 2), 0);
+        Checks.due("13 dusk: no wrongs: thought of", x.dusk(0, 3), 500);
+        // Three wrongs of 0's; 1 saw three, 2 saw two, 3 saw one; one is half so heavy as to be struck for.
+        x.wrong(1, 1, 2);
+        x.wrong(1, 1, 6);
+        x.wrong(3, 5, 12);
+        x.wrong(1, 1, 2);
+        Checks.law(x, "weight = 5", "10 * weight", "1");
+        // 0 strikes once: 1 saw three, off by 2; 2 saw two, off by 1; 3 saw one, off by 0.
+        Checks.due("13 dusk: beats", x.dusk(0, 0), 1);
+        Checks.due("13 dusk: who catch", x.dusk(0, 1), 6);
+        Checks.due("13 dusk: loss", x.dusk(0, 2), 10 + 50);
+        Checks.due("13 dusk: thought of", x.dusk(0, 3), 500 - 1 - 60);
+        Checks.due("13 dusk: the other doer's beats", x.dusk(1, 0), 1);
+        Checks.due("13 dusk: nobody catches the other doer", x.dusk(1, 1), 0);
+        Checks.due("13 dusk: the other doer is thought of", x.dusk(1, 3), 499);
+        Checks.due("13 dusk: nobody", x.dusk(4, 0), -5);
+        Checks.due("13 dusk: nobody below", x.dusk(-1, 0), -5);
+        Checks.due("13 dusk: nobody is told first", x.dusk(4, 4), -5);
+        Checks.due("13 dusk: what", x.dusk(0, 4), -7);
+        Checks.due("13 dusk: what below", x.dusk(0, -1), -7);
+        Checks.due("13 dusk: what is asked changes nothing", x.told(0, 1), 500);
+    }
+
+    private static void doubtsOfTheLastSeen() {
+        DrumOfGuilt x = new DrumOfGuilt();
+        x.person(0, 10);
+        x.person(7, 20);
+        x.person(0, 30);
+        x.wrong(1, 2, 2);
+        x.wrong(1, 3, 6);
+        x.wrong(1, 9, 0);
+        x.wrong(4, 8, 2);
+        // 1, of pride 20 and more 7, saw the second one last of 0's; the third wasn't seen, the fourth isn't 0's.
+        Checks.law(x, "0", "weight", "1");
+        Checks.due("loss: the last that that one saw", x.dusk(0, 2), 3 + 3);
+        Checks.law(x, "0", "pride", "1");
+        Checks.due("loss: doubts are told of who catches", x.dusk(0, 2), 20 + 30);
+        Checks.law(x, "0", "more", "1");
+        Checks.due("loss: more of who catches", x.dusk(0, 2), 7);
+        Checks.law(x, "0", "seen", "1");
+        Checks.due("loss: by how many that wrong is seen", x.dusk(0, 2), 4);
+        Checks.law(x, "pride < 15", "1", "1");
+        Checks.due("beats: strokes are told of who strikes", x.dusk(0, 0), 3);
+    }
+
+    private static void bounds() {
+        DrumOfGuilt x = Checks.people(0, 0);
+        x.wrong(1, 1, 2);
+        x.wrong(1, 1, 2);
+        x.put(0, 1, 1);
+        Checks.due("13 dusk: not below 0", x.dusk(0, 3), 0);
+        x.put(0, 1, 2);
+        Checks.due("13 dusk: just 0", x.dusk(0, 3), 0);
+        x.put(0, 1, 3);
+        Checks.due("13 dusk: just above 0", x.dusk(0, 3), 1);
+        x.put(1, 1, 999);
+        Checks.due("13 dusk: the most", x.dusk(1, 3), 999);
+    }
+
+    private static void towns() {
+        DrumOfGuilt x = Checks.people(0, 0, 0, 0);
+        Checks.due("14 town: no wrongs: together", x.town(0), 0);
+        Checks.due("14 town: nobody has any", x.town(1), -1);
+        Checks.due("14 town: who have none", x.town(2), 15);
+        Checks.due("14 town: who catch", x.town(3), 0);
+        x.wrong(2, 1, 1);
+        x.wrong(6, 1, 0);
+        x.wrong(4, 1, 0);
+        Checks.due("14 town: together", x.town(0), 4);
+        Checks.due("14 town: of like ones the first", x.town(1), 1);
+        Checks.due("14 town: have none", x.town(2), 9);
+        Checks.due("14 town: nobody is off", x.town(3), 0);
+        x.wrong(4, 1, 0);
+        Checks.due("14 town: the most", x.town(1), 2);
+        Checks.law(x, "0", "1", "1");
+        x.wrong(4, 1, 8);
+        Checks.due("14 town: struck for none", x.town(1), -1);
+        Checks.due("14 town: all have none", x.town(2), 15);
+        Checks.due("14 town: who catch anybody", x.town(3), 9);
+        Checks.due("14 town: what", x.town(4), -2);
+        Checks.due("14 town: what below", x.town(-1), -2);
+    }
+
+    private static void nights() {
+        DrumOfGuilt x = Checks.people(0, 13, 50);
+        x.wrong(1, 4, 6);
+        x.wrong(3, 4, 4);
+        x.wrong(2, 4, 5);
+        x.wrong(4, 4, 2);
+        Checks.law(x, "day + shared", "20", "1");
+        // Day 0: 0 strikes 1 + 2, 1 strikes (2 + 3) + (1 + 3), 2 strikes 1; nobody is off.
+        Checks.due("15 night: beats of all", x.night(), 3 + 9 + 1);
+        Checks.due("15 night: name of 0", x.told(0, 1), 497);
+        Checks.due("15 night: name of 1", x.told(1, 1), 491);
+        Checks.due("15 night: name of 2", x.told(2, 1), 499);
+        Checks.due("15 night: no wrongs", x.count(1), 0);
+        Checks.due("15 night: day", x.count(2), 1);
+        x.wrong(1, 4, 6);
+        Checks.due("15 night: day tells", x.dusk(0, 0), 2);
+        Checks.law(x, "0", "20", "1");
+        Checks.due("15 night: nobody strikes", x.night(), 0);
+        Checks.due("15 night: 1 doubts 20, 2 doubts 21", x.told(0, 1), 497 - 41);
+        Checks.due("15 night: the others stay", x.told(1, 1), 491);
+        Checks.due("15 night: day 2", x.count(2), 2);
+        x.wrong(4, 4, 3);
+        x.put(2, 1, 0);
+        x.night();
+        Checks.due("15 night: no name is below 0", x.told(2, 1), 0);
+        // Past the promised calls, the last day still ends the nights.
+        for (int day = 3; day < 999; day++) {
+            x.night();
+        }
+        Checks.due("15 night: the last day", x.count(2), 999);
+        x.wrong(1, 4, 6);
+        Checks.due("15 night: no more", x.night(), -3);
+        Checks.due("15 night: nothing changed", x.count(1), 1);
+    }
+}

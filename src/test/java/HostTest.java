@@ -1,0 +1,188 @@
+/** Promises 35 to 39: sheet, cell, copy, peopleBy, taken. */
+final class HostTest {
+    private static final int MIN = Integer.MIN_VALUE, MAX = Integer.MAX_VALUE;
+
+    public static void main(String[] args) {
+        sheets();
+        cells();
+        copies();
+        copiesAsTheyWere();
+        peopleBySheets();
+        takenFor();
+        Checks.finish("HostTest");
+    }
+
+    private static void sheets() {
+        DrumOfGuilt x = Checks.people(0, 0);
+        Checks.due("35 sheet: below", x.sheet(-1, 0, 1), -2);
+        Checks.due("35 sheet: above", x.sheet(4, 0, 1), -2);
+        Checks.due("35 sheet: sort below", x.sheet(0, -2, 1), -2);
+        Checks.due("35 sheet: sort above", x.sheet(0, 3, 1), -2);
+        Checks.due("35 sheet: n above", x.sheet(0, 0, 41), -2);
+        Checks.due("35 sheet: n far above", x.sheet(0, 0, MAX), -2);
+        Checks.due("35 sheet: n below", x.sheet(0, 0, -1), -14);
+        Checks.due("35 sheet: n far below", x.sheet(0, 0, MIN), -14);
+        Checks.due("35 sheet: sort is told ahead of n below", x.sheet(0, 3, -1), -2);
+        Checks.due("35 sheet: refused, it stays missing", x.cell(0, 0, 0), -11);
+        Checks.due("35 sheet: 40", x.sheet(3, 2, 40), 1);
+        Checks.due("35 sheet: the 40th", x.cell(3, 39, 1), 1);
+        Checks.due("35 sheet: no 41st", x.cell(3, 40, 1), -12);
+        Checks.due("35 sheet: none", x.sheet(0, 1, 0), 1);
+        Checks.due("35 sheet: there, but empty", x.cell(0, 0, 1), -12);
+        Checks.tell(x, 0, 5, 5);
+        Checks.due("35 sheet: refused", x.sheet(0, 2, 41), -2);
+        Checks.due("35 sheet: refused, it stays", x.judge(0), 0);
+        x.sheet(0, 2, 2);
+        Checks.due("35 sheet: all 0", x.judge(0), -1);
+        Checks.due("35 sheet: missing, n does not matter", x.sheet(0, -1, 1000), 1);
+        Checks.due("35 sheet: missing", x.judge(0), -11);
+        Checks.due("35 sheet: missing, n below does not matter", x.sheet(0, -1, MIN), 1);
+        Checks.due("35 sheet: missing, but no such sheet", x.sheet(4, -1, 0), -2);
+    }
+
+    private static void cells() {
+        DrumOfGuilt x = Checks.people(0, 0);
+        Checks.due("36 cell: below", x.cell(-1, 0, 0), -2);
+        Checks.due("36 cell: above", x.cell(4, 0, 0), -2);
+        Checks.due("36 cell: missing", x.cell(0, -1, 0), -11);
+        x.sheet(0, 2, 2);
+        Checks.due("36 cell: i below", x.cell(0, -1, 0), -12);
+        Checks.due("36 cell: i above", x.cell(0, 2, 0), -12);
+        Checks.due("36 cell: i far above", x.cell(0, MAX, 0), -12);
+        Checks.due("36 cell: i far below", x.cell(0, MIN, 0), -12);
+        Checks.due("36 cell: becomes", x.cell(0, 1, 7), 1);
+        Checks.due("36 cell: it is", x.judge(0), 1);
+        Checks.due("36 cell: becomes 0", x.cell(0, 1, 0), 1);
+        Checks.due("36 cell: it is 0", x.judge(0), -1);
+        x.cell(0, 1, 256);
+        Checks.due("36 cell: ints keep 256", x.judge(0), 1);
+        x.sheet(0, 0, 2);
+        x.cell(0, 1, 256);
+        Checks.due("36 cell: bytes don't", x.judge(0), -1);
+        x.sheet(0, 1, 2);
+        x.cell(0, 1, 256);
+        Checks.due("36 cell: shorts keep 256", x.judge(0), 1);
+        x.cell(0, 1, 65536);
+        Checks.due("36 cell: shorts don't keep 65536", x.judge(0), -1);
+    }
+
+    private static void copies() {
+        DrumOfGuilt x = new DrumOfGuilt();
+        Checks.due("37 copy: from below", x.copy(-1, 0, 0, 0, 0), -2);
+        Checks.due("37 copy: from above", x.copy(4, 0, 0, 0, 0), -2);
+        Checks.due("37 copy: to below", x.copy(0, 0, -1, 0, 0), -2);
+        Checks.due("37 copy: to above", x.copy(0, 0, 4, 0, 0), -2);
+        Checks.due("37 copy: both missing", x.copy(0, 0, 1, 0, 0), -11);
+        x.sheet(0, 2, 5);
+        Checks.due("37 copy: to missing", x.copy(0, 0, 1, 0, 1), -11);
+        Checks.due("37 copy: from missing", x.copy(1, 0, 0, 0, 1), -11);
+        x.sheet(1, 1, 5);
+        Checks.due("37 copy: unlike sorts", x.copy(0, 0, 1, 0, 1), -13);
+        Checks.due("37 copy: unlike sorts are told ahead of places", x.copy(0, -1, 1, 9, -1), -13);
+        x.sheet(1, 2, 3);
+        Checks.due("37 copy: i below", x.copy(0, -1, 1, 0, 1), -12);
+        Checks.due("37 copy: j below", x.copy(0, 0, 1, -1, 1), -12);
+        Checks.due("37 copy: n below", x.copy(0, 0, 1, 0, -1), -12);
+        Checks.due("37 copy: more than there are", x.copy(1, 1, 0, 0, 3), -12);
+        Checks.due("37 copy: more than have room", x.copy(0, 0, 1, 1, 3), -12);
+        Checks.due("37 copy: i far above", x.copy(0, MAX, 1, 0, 1), -12);
+        Checks.due("37 copy: n far above", x.copy(0, 1, 1, 0, MAX), -12);
+        Checks.due("37 copy: all far above", x.copy(0, MAX, 1, MAX, MAX), -12);
+        Checks.due("37 copy: all far below", x.copy(0, MIN, 1, MIN, MIN), -12);
+        Checks.due("37 copy: none, at the end", x.copy(0, 5, 1, 3, 0), 0);
+        Checks.due("37 copy: none, past the end", x.copy(0, 6, 1, 0, 0), -12);
+        Checks.due("37 copy: none, past the other's end", x.copy(0, 0, 1, 4, 0), -12);
+        Checks.due("37 copy: all", x.copy(0, 2, 1, 0, 3), 3);
+    }
+
+    private static void copiesAsTheyWere() {
+        DrumOfGuilt x = Checks.people(1, 12, 13, 14, 15);
+        Checks.law(x, "0", "1", "1");
+        for (int p = 0; p < 5; p++) {
+            x.wrong(1 << p, 1, 0);
+        }
+        // Beats are 0, 2, 3, 4, 5.
+        Checks.tell(x, 0, 2, 3, 4, 5, 0);
+        Checks.due("37 copy: to its own later place", x.copy(0, 0, 0, 1, 4), 4);
+        x.cell(0, 0, 0);
+        Checks.due("37 copy: as they were", x.judge(0), -1);
+        Checks.tell(x, 0, 7, 0, 2, 3, 4);
+        Checks.due("37 copy: to its own earlier place", x.copy(0, 1, 0, 0, 4), 4);
+        x.cell(0, 4, 5);
+        Checks.due("37 copy: as they were, too", x.judge(0), -1);
+        Checks.tell(x, 1, 9, 9, 0, 0, 9);
+        Checks.due("37 copy: to another", x.copy(0, 2, 1, 2, 2), 2);
+        Checks.due("37 copy: what stood ahead stays", x.judge(1), 0);
+        x.copy(0, 0, 1, 0, 2);
+        Checks.due("37 copy: what stands behind stays", x.judge(1), 4);
+        Checks.due("37 copy: where it came from stays", x.judge(0), -1);
+        Checks.due("37 copy: a refused one changes nothing", x.copy(1, 0, 0, 3, 3), -12);
+        Checks.due("37 copy: nothing", x.judge(0), -1);
+    }
+
+    private static void peopleBySheets() {
+        DrumOfGuilt x = new DrumOfGuilt();
+        Checks.due("38 peopleBy: below", x.peopleBy(-1, 2, 0, 1), -2);
+        Checks.due("38 peopleBy: above", x.peopleBy(4, 2, 0, 1), -2);
+        Checks.due("38 peopleBy: sort below", x.peopleBy(0, -1, 0, 1), -2);
+        Checks.due("38 peopleBy: sort above", x.peopleBy(0, 3, 0, 1), -2);
+        Checks.due("38 peopleBy: n below", x.peopleBy(0, 2, 0, -1), -2);
+        Checks.due("38 peopleBy: n above", x.peopleBy(0, 2, 0, 7), -2);
+        Checks.due("38 peopleBy: missing", x.peopleBy(0, 2, -1, 1), -11);
+        Checks.tell(x, 0, 99, 12, 34, 60, 1, -1, 1, 47, 56, 0);
+        Checks.due("38 peopleBy: another sort", x.peopleBy(0, 1, -1, 1), -13);
+        Checks.due("38 peopleBy: place below", x.peopleBy(0, 2, -1, 1), -12);
+        Checks.due("38 peopleBy: place far below", x.peopleBy(0, 2, MIN, 6), -12);
+        Checks.due("38 peopleBy: place far above", x.peopleBy(0, 2, MAX, 6), -12);
+        Checks.due("38 peopleBy: none", x.peopleBy(0, 2, 0, 0), 0);
+        Checks.due("38 peopleBy: nobody came", x.count(0), 0);
+        Checks.due("38 peopleBy: others are left out", x.peopleBy(0, 2, 1, 4), 2);
+        Checks.due("38 peopleBy: two came", x.count(0), 2);
+        Checks.due("38 peopleBy: more of the first", x.told(0, 3), 2);
+        Checks.due("38 peopleBy: pride of the first", x.told(0, 0), 34);
+        Checks.due("38 peopleBy: kind of the second", x.told(1, 2), 4);
+        Checks.due("38 peopleBy: pride of the second", x.told(1, 0), 56);
+        Checks.due("38 peopleBy: half of the last lies outside", x.peopleBy(0, 2, 7, 2), -12);
+        Checks.due("38 peopleBy: what stood ahead came", x.count(0), 3);
+        Checks.due("38 peopleBy: it came so", x.told(2, 0), 56);
+        Checks.tellOf(x, 1, 0, 0, 1, 0, 2, 0, 3, 0, 4);
+        Checks.due("38 peopleBy: bytes; one has no room", x.peopleBy(1, 0, 0, 4), 3);
+        Checks.due("38 peopleBy: full", x.count(0), 6);
+        Checks.due("38 peopleBy: full, and outside", x.peopleBy(1, 0, 6, 2), -12);
+        Checks.due("38 peopleBy: full, none comes", x.peopleBy(1, 0, 0, 4), 0);
+    }
+
+    private static void takenFor() {
+        DrumOfGuilt x = Checks.people(0, 10, 20, 30, 40, 50);
+        x.wrong(1, 7, 0);
+        x.wrong(2, 9, 0);
+        boolean[][] isOne = {
+            {true, false, false, false, false, false},
+            {true, true, false, false, false, false},
+            {true, false, true, false, false, false},
+            {true, true, false, true, false, false},
+            {true, false, true, false, true, false},
+            {true, false, false, false, false, true},
+        };
+        for (int p = 0; p < 6; p++) {
+            for (int kind = 0; kind < 6; kind++) {
+                String call = "39 taken: " + p + " for " + kind;
+                Checks.due(call, x.taken(p, kind), isOne[p][kind] ? p : -13);
+            }
+            Checks.due("39 taken: one for a wrong", x.taken(p, 6), -13);
+            Checks.due("39 taken: a wrong for one", x.taken(6, p), -13);
+        }
+        Checks.due("39 taken: a wrong", x.taken(6, 6), 7);
+        Checks.due("39 taken: the second wrong", x.taken(7, 6), 9);
+        Checks.due("39 taken: none such", x.taken(8, 6), -11);
+        Checks.due("39 taken: the last place", x.taken(15, 6), -11);
+        Checks.due("39 taken: none such is told ahead", x.taken(15, 0), -11);
+        Checks.due("39 taken: outside", x.taken(16, 0), -12);
+        Checks.due("39 taken: outside below", x.taken(-1, 0), -12);
+        Checks.due("39 taken: far outside", x.taken(MIN, 6), -12);
+        Checks.due("39 taken: kind", x.taken(0, 7), -2);
+        Checks.due("39 taken: kind below", x.taken(0, -1), -2);
+        Checks.due("39 taken: kind is told first", x.taken(99, 7), -2);
+        Checks.due("39 taken: nobody", Checks.people(0).taken(1, 0), -11);
+    }
+}
