@@ -857,6 +857,7 @@ public final class DrumOfGuilt {
             if (law == null) {
                 return 0;
             }
+            // In the order in which the names are numbered as signs.
             store(facts, 0, at(weightOf, k));
             store(facts, 1, Integer.bitCount(at(doersOf, k)));
             store(facts, 2, Integer.bitCount(at(seersOf, k)));
@@ -1372,7 +1373,7 @@ public final class DrumOfGuilt {
             }
         }
 
-        /** Goes past all of a sign that stand here in a row: how many, each of them open till what it belongs to ends. */
+        /** Goes past all of a sign that stand here in a row: how many. They stay open till what follows is read. */
         private int openAll(int sign, int open) {
             int many = 0;
             while (open + many < MOST_OPEN && isNext(sign)) {

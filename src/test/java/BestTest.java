@@ -55,6 +55,8 @@ final class BestTest {
         Checks.due("17 few: by who saw most", x.few(0), 3);
         Checks.due("17 few: another's", x.few(1), 2);
         Checks.due("17 few: none of that one's", x.few(2), 0);
+        x.wrong(4, 1, 1);
+        Checks.due("17 few: seen by 0 alone", x.few(2), 1);
         Checks.due("17 few: nobody", x.few(3), -5);
         Checks.due("17 few: nobody below", x.few(-1), -5);
     }
@@ -124,6 +126,10 @@ final class BestTest {
         Checks.due("19 away: what is asked changes nothing", x.deed(0, 2), 2);
         x.amend(1);
         x.amend(0);
+        x.wrong(4, 1, 1);
+        Checks.due("19 away: 0", x.away(0), 0);
+        Checks.due("19 away: without 0", x.away(1), 1500);
+        x.amend(0);
         x.wrong(1, 1, 4);
         // The fewer saw it, the more is struck for it: none looks away then.
         Checks.law(x, "5 - 5 * seen", "1", "1");
@@ -139,6 +145,12 @@ final class BestTest {
         Checks.due("20 undone: as so", x.undone(1), 1500);
         Checks.law(x, "weight", "10", "1");
         x.wrong(1, 2, 0);
+        x.wrong(2, 5, 0);
+        x.wrong(4, 5, 0);
+        x.amend(2);
+        x.amend(1);
+        Checks.due("20 undone: the only one", x.undone(0), 0);
+        Checks.due("20 undone: nothing is struck then", x.undone(1), 1500);
         x.wrong(2, 5, 0);
         x.wrong(4, 5, 0);
         Checks.due("20 undone: of like ones the first", x.undone(0), 1);

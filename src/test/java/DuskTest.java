@@ -150,6 +150,15 @@ final class DuskTest {
         Checks.due("14 town: struck for none", x.town(1), -1);
         Checks.due("14 town: all have none", x.town(2), 15);
         Checks.due("14 town: who catch anybody", x.town(3), 9);
+        x = Checks.people(0, 50, 0);
+        x.wrong(1, 1, 4);
+        Checks.due("14 town: 0 has most, one beat", x.town(1), 0);
+        Checks.due("14 town: 0 has some", x.town(2), 6);
+        Checks.law(x, "0", "7", "1");
+        Checks.due("14 town: who catch 0", x.town(3), 4);
+        x.wrong(4, 1, 1);
+        Checks.due("13 dusk: 0 catches", x.dusk(2, 1), 1);
+        Checks.due("13 dusk: 0 doubts", x.dusk(2, 2), 7);
         Checks.due("14 town: what", x.town(4), -2);
         Checks.due("14 town: what below", x.town(-1), -2);
     }

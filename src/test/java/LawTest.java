@@ -105,7 +105,10 @@ final class LawTest {
         fault("strokes 2(3);", 9);
         fault("strokes weight day;", 15);
         fault("strokes weights;", 8);
+        fault("strokes weightz;", 8);
         fault("strokes wait;", 8);
+        fault("strokes keen;", 8);
+        fault("strokes seem;", 8);
         fault("strokes orday;", 8);
         fault("strokes 1 xor 2;", 10);
         fault("strokes 12345;", 8);
@@ -239,6 +242,8 @@ final class LawTest {
         says("0 or 0", 0);
         says("0 or -5", 1);
         says("5 and 7", 1);
+        says("1 and 1", 1);
+        says("0 and 1", 0);
         says("5 and 0", 0);
         says("1 or 1 and 0", 1);
         says("(1 or 1) and 0", 0);

@@ -62,6 +62,11 @@ final class LotsTest {
     }
 
     private static void chances() {
+        DrumOfGuilt fresh = Checks.people(39, 39, 39);
+        Checks.law(fresh, "0 - 9", "1", "1");
+        Checks.due("32 odds: asked first of all, saints strike for all", fresh.odds(0, 40, 0, 0), 0);
+        DrumOfGuilt elders = Checks.people(59, 59, 59);
+        Checks.due("32 odds: asked first of all, elders strike for none", elders.odds(0, 40, 0, 0) > 0 ? 1 : 0, 1);
         DrumOfGuilt x = Checks.people(0, 0, 0);
         odds(x, 0, 40, 0, 0, 1);
         Checks.law(x, "0", "1", "1");
