@@ -1,13 +1,23 @@
 /** Promises 16 to 21: best, few, hire, away, undone, pair. */
 final class BestTest {
     public static void main(String[] args) {
+        all();
+        Checks.finish("BestTest");
+    }
+
+    static void all() {
         bestSets();
+        bestOfTen();
+        bestAsBits();
         fewest();
         hiring();
+        hiringAtTheBounds();
         lookingAway();
+        boundedAtZero();
+        awayOfNobody();
         leavingUndone();
+        undoneFirstAndLast();
         pairs();
-        Checks.finish("BestTest");
     }
 
     private static void bestSets() {
@@ -42,6 +52,47 @@ final class BestTest {
         Checks.due("16 best: what below", x.best(0, -1), -7);
     }
 
+    private static void bestOfTen() {
+        DrumOfGuilt x = Checks.people(0, 0);
+        for (int k = 0; k < 10; k++) {
+            x.wrong(1, 1, 2);
+        }
+        Checks.due("16 best: all ten or none: none is least as bits", x.best(0, 0), 0);
+        Checks.due("16 best: all ten or none: how", x.best(0, 1), 490);
+        Checks.law(x, "1", "11", "1");
+        Checks.due("16 best: all ten are best", x.best(0, 0), 1023);
+        Checks.due("16 best: all ten, how", x.best(0, 1), 490);
+        Checks.law(x, "1", "9", "1");
+        Checks.due("16 best: none of ten is best", x.best(0, 0), 0);
+        Checks.due("16 best: none of ten, how", x.best(0, 1), 491);
+        Checks.law(x, "20", "99", "1");
+        Checks.due("16 best: one of ten", x.best(0, 0), 1);
+        Checks.due("16 best: one of ten, how", x.best(0, 1), 480);
+        x.amend(0);
+        x.wrong(2, 1, 1);
+        Checks.due("16 best: another's is no choice", x.best(1, 0), 512);
+        Checks.due("16 best: who did none", Checks.people(5, 6).best(1, 0), 0);
+    }
+
+    /** Three strokes are wanted: by 0 and 1 (bits 3) or by 2 alone (bits 4): the least as bits are the more. */
+    private static void bestAsBits() {
+        DrumOfGuilt x = Checks.people(0, 0);
+        x.wrong(1, 1, 2);
+        x.wrong(1, 2, 2);
+        x.wrong(1, 3, 2);
+        Checks.law(x, "weight", "99", "1");
+        Checks.due("16 best: the least as bits, not the fewest", x.best(0, 0), 3);
+        Checks.due("16 best: the least as bits, how", x.best(0, 1), 497);
+        x.put(0, 1, 0);
+        Checks.due("16 best: thought of 0 by any: none", x.best(0, 0), 0);
+        Checks.due("16 best: thought of 0", x.best(0, 1), 0);
+        x.put(0, 1, 999);
+        Checks.due("16 best: so well thought of", x.best(0, 1), 996);
+        x.put(0, 1, 4);
+        Checks.due("16 best: just above 0", x.best(0, 0), 3);
+        Checks.due("16 best: thought of 1", x.best(0, 1), 1);
+    }
+
     private static void fewest() {
         DrumOfGuilt x = Checks.people(10, 0, 0);
         Checks.due("17 few: no wrongs", x.few(0), 0);
@@ -59,6 +110,13 @@ final class BestTest {
         Checks.due("17 few: seen by 0 alone", x.few(2), 1);
         Checks.due("17 few: nobody", x.few(3), -5);
         Checks.due("17 few: nobody below", x.few(-1), -5);
+        x = Checks.people(0, 0, 0, 0, 0, 0);
+        for (int k = 0; k < 10; k++) {
+            x.wrong(1, 1, 32);
+        }
+        Checks.due("17 few: the sixth saw all ten", x.few(0), 10);
+        Checks.due("17 few: who saw all, did none", x.few(5), 0);
+        Checks.due("17 few: by ten beats nobody catches one", x.dusk(0, 1), 0);
     }
 
     private static void hiring() {
@@ -107,6 +165,36 @@ final class BestTest {
         Checks.due("18 hire: what below", x.hire(0, -1), -7);
     }
 
+    private static void hiringAtTheBounds() {
+        DrumOfGuilt x = Checks.people(0, 10, 30);
+        x.wrong(1, 9, 0);
+        Checks.law(x, "1", "1", "0");
+        Checks.due("18 hire: a child asks 1, though the text says 0", x.hire(0, 1), 1);
+        Checks.due("18 hire: a child, the first of like ones", x.hire(0, 0), 1);
+        x.wrong(2, 9, 0);
+        Checks.due("18 hire: a person for 0", x.hire(1, 0), 0);
+        Checks.due("18 hire: a person asks 0", x.hire(1, 1), 0);
+        x = Checks.people(0, 49);
+        x.wrong(1, 9, 0);
+        Checks.law(x, "1", "1", "999");
+        Checks.due("18 hire: a thief asks more than 99", x.hire(0, 1), 3 * 99 + 9);
+        x.wrong(1, 9, 2);
+        x.wrong(3, 9, 0);
+        Checks.due("18 hire: a thief's more for each of three", x.hire(0, 1), 3 * (3 * 99 + 9));
+        Checks.law(x, "1", "1", "0");
+        Checks.due("18 hire: a thief's more, the text says 0", x.hire(0, 1), 3 * 9);
+        x = Checks.people(0);
+        x.wrong(1, 9, 0);
+        Checks.due("18 hire: nobody else, though there is a wrong", x.hire(0, 0), -1);
+        Checks.due("18 hire: nobody else, though there is a wrong: how much", x.hire(0, 1), -1);
+        Checks.due("18 hire: what, though there is nobody else", x.hire(0, 2), -7);
+        Checks.due("18 hire: what below, though there is nobody else", x.hire(0, -1), -7);
+        x = Checks.people(0, 0, 0, 0, 0, 10);
+        x.wrong(1, 2, 62);
+        Checks.due("18 hire: the last of six", x.hire(0, 0), 5);
+        Checks.due("18 hire: of a like first, another", x.hire(5, 0), 0);
+    }
+
     private static void lookingAway() {
         DrumOfGuilt x = Checks.people(0, 0, 0);
         Checks.due("19 away: no wrongs", x.away(0), -1);
@@ -137,6 +225,42 @@ final class BestTest {
         Checks.due("19 away: as it is", x.away(1), 1499);
         Checks.due("19 away: what", x.away(2), -2);
         Checks.due("19 away: what below", x.away(-1), -2);
+    }
+
+    /** 0, thought of as little as can be, wins little where 1 doesn't see; 3, well thought of, wins more by 2. */
+    private static void boundedAtZero() {
+        DrumOfGuilt x = Checks.people(0, 0, 0, 0);
+        x.put(0, 1, 5);
+        x.wrong(1, 9, 2);
+        x.wrong(8, 2, 4);
+        Checks.law(x, "0", "10 * weight", "1");
+        Checks.due("19 away: nobody is thought of below 0: who", x.away(0), 2);
+        Checks.due("19 away: nobody is thought of below 0: that", x.away(1), 500 + 500 + 0 + 500);
+        Checks.due("20 undone: nobody is thought of below 0: which", x.undone(0), 1);
+        Checks.due("20 undone: nobody is thought of below 0: that", x.undone(1), 500 + 500 + 0 + 500);
+        x.put(0, 1, 0);
+        x.amend(1);
+        Checks.due("19 away: thought of 0 with and without", x.away(0), -1);
+        Checks.due("19 away: thought of 0, as so", x.away(1), 1500);
+        Checks.due("20 undone: thought of 0 with and without", x.undone(0), -1);
+        Checks.due("20 undone: thought of 0, as so", x.undone(1), 1500);
+    }
+
+    private static void awayOfNobody() {
+        DrumOfGuilt x = new DrumOfGuilt();
+        Checks.due("19 away: there is nobody", x.away(0), -1);
+        Checks.due("19 away: there is nobody: as so", x.away(1), 0);
+        Checks.due("20 undone: there is nobody", x.undone(0), -1);
+        Checks.due("20 undone: there is nobody: as so", x.undone(1), 0);
+        x = Checks.people(0, 0, 0, 0, 0, 0);
+        for (int k = 0; k < 10; k++) {
+            x.wrong(1, 9, 32);
+        }
+        Checks.law(x, "0", "10", "1");
+        Checks.due("19 away: the sixth, from all ten", x.away(0), 5);
+        Checks.due("19 away: the sixth, that", x.away(1), 3000);
+        Checks.due("20 undone: one of ten is as none", x.undone(0), -1);
+        Checks.due("20 undone: one of ten, as so", x.undone(1), 2990);
     }
 
     private static void leavingUndone() {
@@ -175,9 +299,36 @@ final class BestTest {
         Checks.due("20 undone: what below", x.undone(-1), -2);
     }
 
+    private static void undoneFirstAndLast() {
+        for (int heavy = 0; heavy < 10; heavy++) {
+            DrumOfGuilt x = Checks.people(0, 0);
+            for (int k = 0; k < 10; k++) {
+                x.wrong(1 << k % 2, k == heavy ? 9 : 8, 0);
+            }
+            Checks.law(x, "weight", "1", "1");
+            Checks.due("20 undone: of ten " + heavy, x.undone(0), heavy);
+            Checks.due("20 undone: that, of ten", x.undone(1), 1000 - 9 * 8);
+        }
+        DrumOfGuilt x = Checks.people(0, 0);
+        x.wrong(1, 1, 2);
+        x.wrong(1, 1, 2);
+        Checks.law(x, "shared", "3", "1");
+        Checks.due("20 undone: strokes less and not caught more", x.undone(0), 0);
+        Checks.due("20 undone: one stroke less", x.undone(1), 999);
+        Checks.law(x, "weight", "1", "1");
+        x.wrong(3, 9, 0);
+        Checks.due("20 undone: the last", x.undone(0), 2);
+        x.amend(2);
+        x.amend(1);
+        // One is seen and not struck for: without it nobody is off.
+        Checks.law(x, "0", "7", "1");
+        Checks.due("20 undone: nobody catches then", x.undone(1), 1000);
+    }
+
     private static void pairs() {
         DrumOfGuilt x = new DrumOfGuilt();
         Checks.due("21 pair: nobody", x.pair(0), -1);
+        Checks.due("21 pair: nobody, how many", x.pair(1), -1);
         x.person(0, 0);
         Checks.due("21 pair: one", x.pair(0), -1);
         Checks.due("21 pair: one, how many", x.pair(1), -1);
@@ -203,5 +354,14 @@ final class BestTest {
         Checks.due("21 pair: what", x.pair(2), -2);
         Checks.due("21 pair: what below", x.pair(-1), -2);
         Checks.due("21 pair: bad is told first", new DrumOfGuilt().pair(2), -2);
+        x = Checks.people(0, 0);
+        Checks.due("21 pair: two who saw none", x.pair(0), 1);
+        Checks.due("21 pair: two who saw none, how many", x.pair(1), 0);
+        x = Checks.people(0, 0, 0, 0, 0, 0);
+        for (int k = 0; k < 10; k++) {
+            x.wrong(16, 1, 32);
+        }
+        Checks.due("21 pair: the last two", x.pair(0), 45);
+        Checks.due("21 pair: the last two, ten", x.pair(1), 10);
     }
 }

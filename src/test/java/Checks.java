@@ -1,7 +1,10 @@
+import java.util.ArrayList;
+import java.util.List;
+
 /** What the tests have in common: answers compared and counted, texts fed, sheets filled. */
 final class Checks {
     private static int made = 0;
-    private static int wrong = 0;
+    private static final List<String> OTHERWISE = new ArrayList<>();
 
     private Checks() {
     }
@@ -9,15 +12,20 @@ final class Checks {
     static void due(String call, long got, long want) {
         made++;
         if (got != want) {
-            wrong++;
-            System.out.println(call + " answered " + got + ", due is " + want);
+            OTHERWISE.add(call + " answered " + got + ", due is " + want);
         }
+    }
+
+    /** The calls, told as due() was, whose answer was not the one that is due. */
+    static List<String> otherwise() {
+        return OTHERWISE;
     }
 
     /** Tells how it went, and ends the program: with exit code 1 if an answer was not as due. */
     static void finish(String test) {
-        System.out.println(test + ": " + made + " answers, " + wrong + " not as due");
-        if (wrong != 0 || made == 0) {
+        OTHERWISE.forEach(System.out::println);
+        System.out.println(test + ": " + made + " answers, " + OTHERWISE.size() + " not as due");
+        if (!OTHERWISE.isEmpty() || made == 0) {
             System.exit(1);
         }
     }
@@ -40,9 +48,8 @@ final class Checks {
     /** Feeds a text, reads it and makes it the law. */
     static void law(DrumOfGuilt x, String text) {
         int t = read(x, text);
-        if (t < 0 || x.force(t) < 0) {
-            throw new IllegalStateException("no text: " + text + ": " + t);
-        }
+        due("7 text: " + text + " is one", t > 0 ? 1 : 0, 1);
+        due("8 force: " + text + " becomes the law", x.force(t) >= 0 ? 1 : 0, 1);
     }
 
     static void law(DrumOfGuilt x, String strokes, String doubts, String pays) {

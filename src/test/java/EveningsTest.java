@@ -1,7 +1,13 @@
 /** Promises 25 to 30: judge, kinds, prides, whose, laws, film. */
 final class EveningsTest {
     public static void main(String[] args) {
+        all();
+        Checks.finish("EveningsTest");
+    }
+
+    static void all() {
         judging();
+        judgingSix();
         sheetsOfSorts();
         whichKinds();
         whichMores();
@@ -9,7 +15,6 @@ final class EveningsTest {
         whoseWrong();
         whichLaws();
         filming();
-        Checks.finish("EveningsTest");
     }
 
     /** 0 strikes 3, 1 (a child and more 2) strikes 3 + 2 and 4 + 2, 2 strikes 4. */
@@ -43,6 +48,34 @@ final class EveningsTest {
         x = new DrumOfGuilt();
         Checks.tell(x, 0);
         Checks.due("25 judge: nobody, none told", x.judge(0), -1);
+        Checks.tell(x, 0, 0);
+        Checks.due("25 judge: nobody, one told", x.judge(0), -2);
+        x.sheet(0, 0, 40);
+        Checks.due("25 judge: nobody, forty told", x.judge(0), -2);
+    }
+
+    private static void judgingSix() {
+        DrumOfGuilt x = Checks.people(0, 0, 0, 0, 0, 0);
+        for (int p = 0; p < 6; p++) {
+            x.wrong(1 << p, 1 + p, 0);
+        }
+        Checks.law(x, "weight", "1", "1");
+        for (int first = 0; first < 6; first++) {
+            Checks.tell(x, 1, 1, 2, 3, 4, 5, 6);
+            Checks.due("25 judge: all six are so", x.judge(1), -1);
+            for (int p = first; p < 6; p++) {
+                x.cell(1, p, 9);
+            }
+            Checks.due("25 judge: from " + first + " on all are otherwise", x.judge(1), first);
+        }
+        Checks.tell(x, 1, 1, 2, 3, 4, 5, 7);
+        Checks.due("25 judge: the sixth is otherwise", x.judge(1), 5);
+        Checks.tell(x, 1, 1, 2, 3, 4, 5);
+        Checks.due("25 judge: of the sixth nothing is told", x.judge(1), -1);
+        Checks.tell(x, 1, 1, 2, 3, 4, 5, 6, 0);
+        Checks.due("25 judge: a seventh is told of", x.judge(1), -2);
+        Checks.tell(x, 1, -1);
+        Checks.due("25 judge: below 0 is otherwise", x.judge(1), 0);
     }
 
     private static void sheetsOfSorts() {
@@ -149,6 +182,21 @@ final class EveningsTest {
         Checks.due("27 prides: none", x.prides(0, 0, 0), 0);
         Checks.due("27 prides: the least of none", x.prides(0, 0, 1), -1);
         Checks.due("27 prides: what is asked changes nothing", x.told(0, 0), 50);
+        Checks.tell(x, 0, 4, 12);
+        Checks.due("27 prides: nothing is told of 2: all", x.prides(0, 2, 0), 100);
+        Checks.due("27 prides: nothing is told of 2: the least", x.prides(0, 2, 1), 0);
+        Checks.tell(x, 0, 3, 12);
+        Checks.due("27 prides: up to 30", x.prides(0, 0, 0), 31);
+        Checks.due("27 prides: from 0 on", x.prides(0, 0, 1), 0);
+        Checks.due("27 prides: another is otherwise, nothing is told of 2", x.prides(0, 2, 0), 0);
+        Checks.due("27 prides: another is otherwise, the least", x.prides(0, 2, 1), -1);
+        x.put(0, 0, 99);
+        Checks.tell(x, 0, 5, 12, 4);
+        Checks.due("27 prides: as it is, 98 would do", x.prides(0, 0, 1), 98);
+        Checks.law(x, "99 < pride + 1", "1", "1");
+        Checks.tell(x, 0, 1);
+        Checks.due("27 prides: 99 alone", x.prides(0, 0, 0), 1);
+        Checks.due("27 prides: 99 is the least", x.prides(0, 0, 1), 99);
     }
 
     private static void whoseWrong() {
@@ -188,6 +236,23 @@ final class EveningsTest {
         Checks.tell(x, 0, 1, 2, 0);
         Checks.due("28 whose: seen by so many as it was", x.whose(0, 1, 1), 1);
         Checks.due("28 whose: what is asked changes nothing", x.deed(1, 0), 6);
+        x = Checks.people(0, 0, 0, 0, 0, 0);
+        x.wrong(1, 5, 62);
+        Checks.tell(x, 0);
+        Checks.due("28 whose: of six, nothing told", x.whose(0, 0, 0), 63);
+        Checks.due("28 whose: of six, nothing told, the least", x.whose(0, 0, 1), 1);
+        Checks.tell(x, 0, 1, 1, 1, 1, 1, 1);
+        Checks.due("28 whose: of six all", x.whose(0, 0, 0), 1);
+        Checks.due("28 whose: of six all, the least", x.whose(0, 0, 1), 63);
+        Checks.tell(x, 0, 0, 0, 0, 0, 0, 1);
+        Checks.due("28 whose: the sixth alone, who saw it", x.whose(0, 0, 1), 32);
+        Checks.tell(x, 0, 0, 0, 0, 0, 0, 0);
+        Checks.due("28 whose: that of nobody is none", x.whose(0, 0, 0), 0);
+        Checks.due("28 whose: that of nobody is none, the least", x.whose(0, 0, 1), -1);
+        x = Checks.people(0);
+        x.wrong(1, 5, 0);
+        Checks.tell(x, 0, 1);
+        Checks.due("28 whose: of one", x.whose(0, 0, 0), 1);
     }
 
     private static void whichLaws() {
@@ -210,6 +275,25 @@ final class EveningsTest {
         Checks.due("29 laws: all, nothing is told", x.laws(0), 15);
         Checks.due("29 laws: what is asked changes nothing", x.count(4), 2);
         Checks.due("29 laws: beats stay", x.dusk(0, 0), 1);
+        x = Checks.people(0);
+        x.wrong(1, 4, 0);
+        for (int t = 1; t < 6; t++) {
+            Checks.read(x, "strokes " + (t == 5 ? 1 : t) + ";doubts 1;pays 1;");
+        }
+        Checks.tell(x, 0, 1);
+        Checks.due("29 laws: of six the first, the second and the sixth", x.laws(0), Checks.bits(0, 1, 5));
+        Checks.tell(x, 0);
+        Checks.due("29 laws: all six", x.laws(0), 63);
+        x = Checks.people(0);
+        Checks.tell(x, 0);
+        Checks.due("29 laws: there is one alone", x.laws(0), 1);
+        Checks.due("29 laws: of nobody", lawsOfNobody(), 1);
+    }
+
+    private static int lawsOfNobody() {
+        DrumOfGuilt x = new DrumOfGuilt();
+        x.sheet(3, 0, 0);
+        return x.laws(3);
     }
 
     private static void filming() {
@@ -230,6 +314,21 @@ final class EveningsTest {
         x = new DrumOfGuilt();
         Checks.due("30 film: nobody", x.film(0), 0);
         Checks.due("30 film: an empty row", x.cell(0, 0, 0), -12);
+        for (int s = 0; s < 4; s++) {
+            x = three();
+            Checks.due("30 film: a missing one, " + s, x.film(s), 3);
+            Checks.due("30 film: a missing one becomes beats of all, " + s, x.judge(s), -1);
+            Checks.due("30 film: it tells of the last, " + s, x.kinds(s, 2, 0), Checks.bits(0, 1));
+            x.sheet((s + 1) % 4, 1, 1);
+            Checks.due("30 film: it is of shorts, " + s, x.copy(s, 0, (s + 1) % 4, 0, 1), 1);
+        }
+        for (int sort = 0; sort < 3; sort++) {
+            x = three();
+            x.sheet(1, sort, 9);
+            x.film(1);
+            Checks.due("30 film: shorts, though it was of sort " + sort, x.peopleBy(1, 1, 0, 0), 0);
+            Checks.due("30 film: three, though it was of nine", x.cell(1, 3, 0), -12);
+        }
         // More beats than a byte holds.
         x = Checks.people(39);
         Checks.law(x, "20", "1", "1");

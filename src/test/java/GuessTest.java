@@ -3,10 +3,15 @@ final class GuessTest {
     private static final long NO = DrumOfGuilt.NO;
 
     public static void main(String[] args) {
+        all();
+        Checks.finish("GuessTest");
+    }
+
+    static void all() {
         guessing();
+        guessingOfTen();
         likelihood();
         sharing();
-        Checks.finish("GuessTest");
     }
 
     private static DrumOfGuilt fourWrongs() {
@@ -41,12 +46,39 @@ final class GuessTest {
         Checks.due("22 guess: a child's 11, the least", x.guess(1, 11, 1), 5);
         Checks.due("22 guess: an elder's 2", x.guess(2, 2, 0), 6);
         Checks.due("22 guess: an elder's 0", x.guess(2, 0, 0), 1);
+        Checks.due("22 guess: 0 by none", x.guess(0, 0, 1), 0);
+        Checks.due("22 guess: 999, none", x.guess(0, 999, 1), -1);
         Checks.due("22 guess: nobody", x.guess(3, 0, 0), -5);
         Checks.due("22 guess: nobody is told first", x.guess(-1, -1, 2), -5);
         Checks.due("22 guess: beats below", x.guess(0, -1, 0), -7);
         Checks.due("22 guess: beats above", x.guess(0, 1000, 0), -7);
         Checks.due("22 guess: what", x.guess(0, 0, 2), -7);
         Checks.due("22 guess: what below", x.guess(0, 0, -1), -7);
+    }
+
+    private static void guessingOfTen() {
+        DrumOfGuilt x = Checks.people(0, 39);
+        for (int k = 0; k < 10; k++) {
+            x.wrong(1 + k % 2, 1, 0);
+        }
+        int[] sets = {1, 10, 45, 120, 210, 252, 210, 120, 45, 10, 1, 0};
+        for (int beats = 0; beats < sets.length; beats++) {
+            Checks.due("22 guess: of ten, " + beats, x.guess(0, beats, 0), sets[beats]);
+            Checks.due("22 guess: of ten, the least, " + beats, x.guess(0, beats, 1), beats > 10 ? -1 : (1 << beats) - 1);
+        }
+        likely(x, 0, 5, 9, 1, 2);
+        likely(x, 0, 4, 0, 2, 5);
+        likely(x, 0, 10, 9, 1, 1);
+        likely(x, 0, 0, 9, 0, 1);
+        likely(x, 0, 11, 9, NO, NO);
+        Checks.law(x, "20", "1", "1");
+        Checks.due("22 guess: of ten, a saint's most", x.guess(1, 580, 0), 1);
+        Checks.due("22 guess: of ten, a saint's most: all", x.guess(1, 580, 1), 1023);
+        Checks.due("22 guess: of ten, a saint's one", x.guess(1, 58, 0), 10);
+        Checks.law(x, "0", "1", "1");
+        Checks.due("22 guess: of ten, none is struck for: all sets", x.guess(0, 0, 0), 1024);
+        Checks.due("22 guess: of ten, none is struck for: the least", x.guess(0, 0, 1), 0);
+        likely(x, 0, 0, 5, 1, 2);
     }
 
     private static void likely(DrumOfGuilt x, int p, int beats, int k, long above, long below) {
@@ -63,6 +95,10 @@ final class GuessTest {
         likely(x, 0, 12, 2, 1, 1);
         likely(x, 0, 0, 0, 0, 1);
         likely(x, 2, 2, 0, 1, 2);
+        // 2 is struck by the first or the last alone, 10 by the second and third and one of these.
+        likely(x, 0, 2, 1, 0, 1);
+        likely(x, 0, 10, 1, 1, 1);
+        likely(x, 0, 10, 3, 1, 2);
         likely(x, 0, 1, 0, NO, NO);
         likely(x, 0, 999, 0, NO, NO);
         likely(x, 0, -1, 0, NO, NO);

@@ -3,12 +3,21 @@ final class LotsTest {
     private static final long NO = DrumOfGuilt.NO;
 
     public static void main(String[] args) {
+        all();
+        Checks.finish("LotsTest");
+    }
+
+    static void all() {
         drawing();
         drawnByHand();
+        drawnFromAnEvening();
+        oddsPastTheLastSeed();
         chances();
         images();
+        noImage();
+        wrongsSinceTheImage();
+        imageOfAll();
         nothingElseIsKept();
-        Checks.finish("LotsTest");
     }
 
     private static void drawing() {
@@ -35,16 +44,7 @@ final class LotsTest {
             Checks.law(x, "(seen < shared) + (weight < 3)", "5", "1");
             int drawnBeats = x.drawn(seed, 1);
             int drawnCaught = x.drawn(seed, 0);
-            long lot = seed + 1;
-            for (int i = 0; i < 6; i++) {
-                int[] lots = new int[3];
-                for (int j = 0; j < 3; j++) {
-                    lot = lot * 48271 % 2147483647;
-                    lots[j] = (int) lot;
-                }
-                int doer = 1 << lots[0] % 5;
-                x.wrong(doer, 1 + lots[2] % 9, 1 << lots[1] % 5 & ~doer);
-            }
+            makeTruly(x, seed);
             int caught = 0;
             for (int p = 0; p < 5; p++) {
                 caught |= x.dusk(p, 1) != 0 ? 1 << p : 0;
@@ -52,6 +52,64 @@ final class LotsTest {
             Checks.due("31 drawn: six wrongs of seed " + seed, x.count(1), 6);
             Checks.due("31 drawn: beats of seed " + seed, drawnBeats, x.town(0));
             Checks.due("31 drawn: whom of seed " + seed, drawnCaught, caught);
+        }
+    }
+
+    /** The wrongs of a seed become those of an object, which has none yet. */
+    private static void makeTruly(DrumOfGuilt x, int seed) {
+        int people = x.count(0);
+        long lot = seed + 1;
+        for (int i = 0; i < 6; i++) {
+            int[] lots = new int[3];
+            for (int j = 0; j < 3; j++) {
+                lot = lot * 48271 % 2147483647;
+                lots[j] = (int) lot;
+            }
+            int doer = 1 << lots[0] % people;
+            x.wrong(doer, 1 + lots[2] % 9, 1 << lots[1] % people & ~doer);
+        }
+    }
+
+    /** In what is drawn the wrongs there are play no part; day, people and the law stay as they are. */
+    private static void drawnFromAnEvening() {
+        for (int seed : new int[] {0, 1, 2, 99998, 99999}) {
+            DrumOfGuilt x = Checks.people(0, 13, 40, 52, 35, 3);
+            Checks.law(x, "(weight < 4) * (1 + day)", "5", "1");
+            x.night();
+            DrumOfGuilt twin = Checks.people(0, 13, 40, 52, 35, 3);
+            Checks.law(twin, "(weight < 4) * (1 + day)", "5", "1");
+            twin.night();
+            for (int k = 0; k < 10; k++) {
+                x.wrong(1 << k % 6, 9, 63 & ~(1 << k % 6));
+            }
+            makeTruly(twin, seed);
+            int caught = 0;
+            for (int p = 0; p < 6; p++) {
+                caught |= twin.dusk(p, 1) != 0 ? 1 << p : 0;
+            }
+            Checks.due("31 drawn: none but six: beats of seed " + seed, x.drawn(seed, 1), twin.town(0));
+            Checks.due("31 drawn: none but six: whom of seed " + seed, x.drawn(seed, 0), caught);
+            Checks.due("31 drawn: there are ten still", x.count(1), 10);
+        }
+    }
+
+    /** From 99999 on, 40 seeds go up to 100038. */
+    private static void oddsPastTheLastSeed() {
+        for (int p = 0; p < 3; p++) {
+            int times = 0;
+            for (int i = 0; i < 40; i++) {
+                DrumOfGuilt x = Checks.people(20, 34, 0);
+                Checks.law(x, "0", "1", "1");
+                makeTruly(x, 99999 + i);
+                times += x.dusk(p, 1) != 0 ? 1 : 0;
+            }
+            int divisor = 1;
+            for (int d = 2; d <= 40; d++) {
+                divisor = times % d == 0 && 40 % d == 0 ? d : divisor;
+            }
+            DrumOfGuilt x = Checks.people(20, 34, 0);
+            Checks.law(x, "0", "1", "1");
+            odds(x, 99999, 40, p, times / divisor, 40 / divisor);
         }
     }
 
@@ -136,13 +194,90 @@ final class LotsTest {
         x.person(14, 4);
         Checks.due("33 image: another", x.image(), 3);
         x.wrong(1, 1, 0);
-        Checks.due("34 back: to that", x.back(), 3);
-        Checks.due("34 back: no wrongs", x.count(1), 0);
-        Checks.due("34 back: of that kind", x.told(2, 2), 1);
+        Checks.due("33 image: another takes its place: how many", x.back(), 3);
+        Checks.due("33 image: another takes its place: no wrongs", x.count(1), 0);
+        Checks.due("33 image: another takes its place: of that kind", x.told(2, 2), 1);
         x = new DrumOfGuilt();
         Checks.due("33 image: nobody", x.image(), 0);
         x.person(0, 0);
         Checks.due("34 back: to nobody", x.back(), 0);
+        Checks.due("34 back: nobody", x.told(0, 0), -5);
+    }
+
+    private static void noImage() {
+        DrumOfGuilt x = Checks.people(0, 7);
+        x.wrong(1, 5, 2);
+        x.put(1, 1, 7);
+        Checks.due("34 back: no image", x.back(), -3);
+        Checks.due("34 back: no image, people stay", x.count(0), 2);
+        Checks.due("34 back: no image, wrongs stay", x.deed(0, 1), 5);
+        Checks.due("34 back: no image, names stay", x.told(1, 1), 7);
+        Checks.due("34 back: no image still", x.back(), -3);
+    }
+
+    private static void wrongsSinceTheImage() {
+        DrumOfGuilt x = Checks.people(0, 7);
+        x.image();
+        x.wrong(1, 5, 2);
+        x.wrong(2, 6, 1);
+        x.back();
+        Checks.due("34 back: wrongs that came since are none", x.count(1), 0);
+        x.wrong(1, 5, 2);
+        x.wrong(2, 6, 1);
+        x.image();
+        x.amend(1);
+        x.back();
+        Checks.due("34 back: wrongs that are none since are there", x.count(1), 2);
+        Checks.due("34 back: as they were", x.deed(1, 1), 6);
+        x.amend(0);
+        x.wrong(3, 9, 0);
+        x.back();
+        Checks.due("34 back: in their order", x.deed(0, 1), 5);
+        x.night();
+        x.back();
+        Checks.due("34 back: also after a night", x.count(1), 2);
+        Checks.due("34 back: the day of the image", x.count(2), 0);
+        Checks.due("34 back: names ahead of the night", x.told(0, 1), 500);
+    }
+
+    /** Six people and ten wrongs are kept, all is changed, and all is as it was: twice. */
+    private static void imageOfAll() {
+        DrumOfGuilt x = new DrumOfGuilt();
+        for (int p = 0; p < 6; p++) {
+            x.person(10 * p + p, 90 + p);
+            x.put(p, 1, 100 * p + 7);
+        }
+        for (int k = 0; k < 10; k++) {
+            x.wrong(1 << k % 6, 1 + k % 9, 32 >> k % 6 & ~(1 << k % 6));
+        }
+        Checks.due("33 image: six", x.image(), 6);
+        Checks.law(x, "7", "8", "9");
+        for (int round = 0; round < 2; round++) {
+            for (int p = 0; p < 6; p++) {
+                x.put(p, 0, p);
+                x.put(p, 1, 500);
+            }
+            x.force(1);
+            x.night();
+            x.night();
+            x.wrong(63, 1, 0);
+            Checks.due("34 back: six", x.back(), 6);
+            Checks.due("34 back: ten wrongs", x.count(1), 10);
+            Checks.due("34 back: day 0", x.count(2), 0);
+            Checks.due("34 back: the first law", x.count(4), 0);
+            for (int p = 0; p < 6; p++) {
+                Checks.due("34 back: pride of " + p, x.told(p, 0), 90 + p);
+                Checks.due("34 back: name of " + p, x.told(p, 1), 100 * p + 7);
+                Checks.due("34 back: kind of " + p, x.told(p, 2), p);
+                Checks.due("34 back: more of " + p, x.told(p, 3), p);
+            }
+            for (int k = 0; k < 10; k++) {
+                Checks.due("34 back: doers of " + k, x.deed(k, 0), 1 << k % 6);
+                Checks.due("34 back: weight of " + k, x.deed(k, 1), 1 + k % 9);
+                Checks.due("34 back: by whom seen, " + k, x.deed(k, 2), 32 >> k % 6 & ~(1 << k % 6));
+            }
+            Checks.due("34 back: what the law says", x.asks(1, 5, 9), 10);
+        }
     }
 
     private static void nothingElseIsKept() {

@@ -1,15 +1,23 @@
 /** Promises 1 to 5 and 10 to 12: a new object, count, wrong, deed, amend, person, put, told. */
 final class PeopleTest {
     public static void main(String[] args) {
+        all();
+        Checks.finish("PeopleTest");
+    }
+
+    static void all() {
         aNewObject();
+        theFirstText();
         counting();
+        countingMost();
         wrongs();
         deeds();
         amending();
+        amendingOneOfMany();
         persons();
         putting();
         telling();
-        Checks.finish("PeopleTest");
+        tellingOfEach();
     }
 
     private static void aNewObject() {
@@ -20,11 +28,27 @@ final class PeopleTest {
         Checks.due("1 new: texts", x.count(3), 1);
         Checks.due("1 new: the law", x.count(4), 0);
         Checks.due("1 new: the tape", x.count(5), 0);
-        Checks.due("1 new: no sheet", x.judge(3), -11);
+        for (int s = 0; s < 4; s++) {
+            Checks.due("1 new: sheet " + s + " is missing", x.judge(s), -11);
+        }
         Checks.due("1 new: no image", x.back(), -3);
         DrumOfGuilt other = Checks.people(1, 2);
         Checks.due("1 new: one object's people are not another one's", new DrumOfGuilt().count(0), 0);
         Checks.due("1 new: they stay", other.count(0), 2);
+        Checks.due("1 new: an empty tape ends at 0", new DrumOfGuilt().text(), -100);
+    }
+
+    private static void theFirstText() {
+        DrumOfGuilt x = Checks.people(0, 27);
+        x.wrong(1, 9, 0);
+        x.wrong(2, 1, 1);
+        for (int p = 0; p < 2; p++) {
+            for (int k = 0; k < 2; k++) {
+                Checks.due("1 new: text 0: strokes 1", x.asks(0, p, k), 1);
+                Checks.due("1 new: text 0: doubts 10", x.asks(1, p, k), 10);
+                Checks.due("1 new: text 0: pays weight", x.asks(2, p, k), k == 0 ? 9 : 1);
+            }
+        }
     }
 
     private static void counting() {
@@ -44,6 +68,26 @@ final class PeopleTest {
         Checks.due("2 count: the tape", x.count(5), 5);
         Checks.due("2 count: above", x.count(6), -2);
         Checks.due("2 count: below", x.count(-1), -2);
+    }
+
+    private static void countingMost() {
+        DrumOfGuilt x = Checks.people(0, 0, 0, 0, 0, 0);
+        for (int k = 0; k < 10; k++) {
+            x.wrong(1, 1, 0);
+        }
+        for (int t = 1; t < 6; t++) {
+            Checks.read(x, "strokes 1;doubts 1;pays 1;");
+        }
+        x.force(4);
+        for (int i = 0; i < 32; i++) {
+            x.feed(5, 0, 0, 0, 0, 0);
+        }
+        Checks.due("2 count: six people", x.count(0), 6);
+        Checks.due("2 count: ten wrongs", x.count(1), 10);
+        Checks.due("2 count: day 0", x.count(2), 0);
+        Checks.due("2 count: six texts", x.count(3), 6);
+        Checks.due("2 count: the law is not the last text", x.count(4), 4);
+        Checks.due("2 count: 160 bytes", x.count(5), 160);
     }
 
     private static void wrongs() {
@@ -67,6 +111,14 @@ final class PeopleTest {
         Checks.due("3 wrong: full", x.wrong(1, 1, 0), -4);
         Checks.due("3 wrong: bad is told ahead of full", x.wrong(1, 1, 1), -2);
         Checks.due("3 wrong: ten", x.count(1), 10);
+        x.amend(9);
+        Checks.due("3 wrong: room again", x.wrong(1, 1, 0), 9);
+        x = Checks.people(0, 0, 0, 0, 0, 0);
+        Checks.due("3 wrong: done by all six", x.wrong(63, 1, 0), 0);
+        Checks.due("3 wrong: done by the sixth, seen by all others", x.wrong(32, 1, 31), 1);
+        Checks.due("3 wrong: a seventh that there can't be", x.wrong(64, 1, 0), -2);
+        x = Checks.people(0);
+        Checks.due("3 wrong: done by the only one", x.wrong(1, 9, 0), 0);
     }
 
     private static void deeds() {
@@ -83,6 +135,17 @@ final class PeopleTest {
         Checks.due("4 deed: no such is told first", x.deed(2, 3), -5);
         Checks.due("4 deed: what", x.deed(0, 3), -7);
         Checks.due("4 deed: what below", x.deed(0, -1), -7);
+        x = Checks.people(0, 0, 0, 0, 0, 0);
+        x.wrong(63, 1, 0);
+        x.wrong(33, 9, 30);
+        x.wrong(1, 5, 62);
+        Checks.due("4 deed: all six did it", x.deed(0, 0), 63);
+        Checks.due("4 deed: nobody saw it", x.deed(0, 2), 0);
+        Checks.due("4 deed: weight 1", x.deed(0, 1), 1);
+        Checks.due("4 deed: the first and the sixth did it", x.deed(1, 0), 33);
+        Checks.due("4 deed: weight 9", x.deed(1, 1), 9);
+        Checks.due("4 deed: the four others saw it", x.deed(1, 2), 30);
+        Checks.due("4 deed: all others saw it", x.deed(2, 2), 62);
     }
 
     private static void amending() {
@@ -102,6 +165,25 @@ final class PeopleTest {
         Checks.due("5 amend: the last", x.amend(1), 5);
         Checks.due("5 amend: the first", x.amend(0), 2);
         Checks.due("5 amend: empty", x.amend(0), -5);
+    }
+
+    private static void amendingOneOfMany() {
+        for (int gone = 0; gone < 5; gone++) {
+            DrumOfGuilt x = Checks.people(0, 0, 0, 0, 0);
+            for (int k = 0; k < 5; k++) {
+                x.wrong(1 << k, 2 + k, 1 << (k + 1) % 5);
+            }
+            Checks.due("5 amend: " + gone + " of five", x.amend(gone), 2 + gone);
+            for (int k = 0; k < 4; k++) {
+                int was = k < gone ? k : k + 1;
+                String call = "5 amend: " + gone + " of five is gone, " + k + " was " + was + ": ";
+                Checks.due(call + "doers", x.deed(k, 0), 1 << was);
+                Checks.due(call + "weight", x.deed(k, 1), 2 + was);
+                Checks.due(call + "seen by", x.deed(k, 2), 1 << (was + 1) % 5);
+            }
+            Checks.due("5 amend: of five there are four", x.count(1), 4);
+            Checks.due("5 amend: the fifth place is empty", x.deed(4, 0), -5);
+        }
     }
 
     private static void persons() {
@@ -166,5 +248,24 @@ final class PeopleTest {
         Checks.due("12 told: what below", x.told(0, -1), -7);
         Checks.due("12 told: nobody above", x.told(3, 0), -5);
         Checks.due("12 told: nobody is told first", x.told(-1, 9), -5);
+    }
+
+    private static void tellingOfEach() {
+        DrumOfGuilt x = new DrumOfGuilt();
+        for (int p = 0; p < 6; p++) {
+            x.person(10 * p + 9 - p, 99 - 10 * p);
+            x.put(p, 1, 999 - 100 * p);
+        }
+        for (int k = 0; k < 10; k++) {
+            x.wrong(1, 1, 32);
+        }
+        for (int p = 0; p < 6; p++) {
+            Checks.due("12 told: pride of " + p, x.told(p, 0), 99 - 10 * p);
+            Checks.due("12 told: name of " + p, x.told(p, 1), 999 - 100 * p);
+            Checks.due("12 told: kind of " + p, x.told(p, 2), p);
+            Checks.due("12 told: more of " + p, x.told(p, 3), 9 - p);
+            Checks.due("12 told: how many " + p + " did", x.told(p, 4), p == 0 ? 10 : 0);
+            Checks.due("12 told: how many " + p + " saw", x.told(p, 5), p == 5 ? 10 : 0);
+        }
     }
 }

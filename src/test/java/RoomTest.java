@@ -49,14 +49,16 @@ final class RoomTest {
     }
 
     private static void whatCallsMake() {
-        DrumOfGuilt x = aFullObject();
         long bytes = 0;
         for (int round = 0; round < 3; round++) {
-            long before = made();
+            bytes = 0;
             for (int i = 0; i < 20; i++) {
+                DrumOfGuilt x = aFullObject();
+                long before = made();
                 callAll(x, i);
+                callAll(x, i + 20);
+                bytes += made() - before;
             }
-            bytes = made() - before;
         }
         Checks.due("bytes that calls make", bytes, 0);
     }

@@ -13,6 +13,11 @@ import java.util.Random;
  */
 final class RunsTest {
     private static final int RUNS = 400, CALLS = 512;
+    /** The methods in the document's order: the first is promise 2. */
+    private static final List<String> PROMISED = List.of("count", "wrong", "deed", "amend", "feed", "text", "force",
+        "asks", "person", "put", "told", "dusk", "town", "night", "best", "few", "hire", "away", "undone", "pair",
+        "guess", "likely", "share", "judge", "kinds", "prides", "whose", "laws", "film", "drawn", "odds", "image",
+        "back", "sheet", "cell", "copy", "peopleBy", "taken");
 
     private final Random lots;
     private final DrumOfGuilt real = new DrumOfGuilt();
@@ -81,7 +86,8 @@ final class RunsTest {
         if (got != want || !thrown.isEmpty()) {
             agree = false;
             System.out.println("after " + calls);
-            System.out.println("the class answered " + got + thrown + ", the model " + want);
+            String promise = PROMISED.indexOf(name) + 2 + " " + name;
+            Checks.due(promise + ": the last of these" + thrown, got, thrown.isEmpty() ? want : ~got);
         }
     }
 
