@@ -19,6 +19,9 @@ final class DuskTest {
         bounds();
         towns();
         nights();
+        nightOfNobody();
+        nightOfAll();
+        theLastNight();
     }
 
     /** One of each kind, and more 3, does a wrong of weight 4 alone. */
@@ -302,17 +305,24 @@ final class DuskTest {
         x.put(2, 1, 0);
         x.night();
         Checks.due("15 night: no name is below 0", x.told(2, 1), 0);
-        nightOfNobody();
-        nightOfAll();
-        // Past the promised calls, the last day still ends the nights.
-        for (int day = 3; day < 999; day++) {
+    }
+
+    /** 999 nights are more calls than the document promises of one object: the last day can't be seen otherwise. */
+    private static DrumOfGuilt onTheLastDay() {
+        DrumOfGuilt x = Checks.people(0, 13);
+        for (int day = 0; day < 998; day++) {
             x.night();
         }
-        Checks.due("15 night: day 998 may end", x.count(2), 999);
-        x.wrong(1, 4, 6);
-        Checks.due("15 night: no more", x.night(), -3);
-        Checks.due("15 night: nothing changed", x.count(1), 1);
-        Checks.due("15 night: no day more", x.count(2), 999);
+        Checks.due("15 night: day 998 may end", x.night(), 0);
+        Checks.due("15 night: day 999", x.count(2), 999);
+        x.wrong(1, 4, 2);
+        return x;
+    }
+
+    private static void theLastNight() {
+        DrumOfGuilt x = onTheLastDay();
+        Checks.due("15 night: state: day is 999", x.night(), -3);
+        Checks.due("15 night: state changes nothing", Made.allOf(x).equals(Made.allOf(onTheLastDay())) ? 1 : 0, 1);
     }
 
     private static void nightOfNobody() {

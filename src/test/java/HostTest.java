@@ -273,6 +273,8 @@ final class HostTest {
         Checks.due("38 peopleBy: two stood ahead and came", x.count(0), 2);
         Checks.due("38 peopleBy: from 1 on two", x.peopleBy(0, 0, 1, 2), 2);
         Checks.due("38 peopleBy: none, at the end", x.peopleBy(0, 0, 5, 0), 0);
+        Checks.due("38 peopleBy: none: no place is looked at, above", x.peopleBy(0, 0, MAX, 0), 0);
+        Checks.due("38 peopleBy: none: no place is looked at, below", x.peopleBy(0, 0, -1, 0), 0);
         Checks.due("38 peopleBy: from the end on", x.peopleBy(0, 0, 5, 1), -12);
         Checks.due("38 peopleBy: four came", x.count(0), 4);
     }
