@@ -9,11 +9,14 @@ final class BestTest {
         bestSets();
         bestOfTen();
         bestAsBits();
+        bestOfAnother();
         fewest();
+        fewestByTheLast();
         hiring();
         hiringAtTheBounds();
         lookingAway();
         boundedAtZero();
+        awayForLittle();
         awayOfNobody();
         leavingUndone();
         undoneFirstAndLast();
@@ -93,6 +96,24 @@ final class BestTest {
         Checks.due("16 best: thought of 1", x.best(0, 1), 1);
     }
 
+    /** A child's strokes are 1 + 2 for each of three that 1 saw: one's will do, and the first one's would not. */
+    private static void bestOfAnother() {
+        DrumOfGuilt x = Checks.people(0, 0, 12);
+        x.wrong(4, 1, 2);
+        x.wrong(4, 1, 2);
+        x.wrong(4, 1, 2);
+        x.wrong(1, 1, 0);
+        Checks.due("16 best: by one's own strokes", x.best(2, 0), 1);
+        Checks.due("16 best: by one's own strokes, how", x.best(2, 1), 497);
+        x.put(2, 1, 700);
+        Checks.due("16 best: by one's own name", x.best(2, 1), 697);
+        x.wrong(2, 1, 4);
+        Checks.due("16 best: another's strokes", x.best(1, 0), 16);
+        Checks.due("16 best: another's strokes, how", x.best(1, 1), 499);
+        Checks.due("16 best: the first of whom nobody saw any", x.best(0, 0), 0);
+        Checks.due("16 best: the first of whom nobody saw any, how", x.best(0, 1), 500);
+    }
+
     private static void fewest() {
         DrumOfGuilt x = Checks.people(10, 0, 0);
         Checks.due("17 few: no wrongs", x.few(0), 0);
@@ -117,6 +138,13 @@ final class BestTest {
         Checks.due("17 few: the sixth saw all ten", x.few(0), 10);
         Checks.due("17 few: who saw all, did none", x.few(5), 0);
         Checks.due("17 few: by ten beats nobody catches one", x.dusk(0, 1), 0);
+    }
+
+    private static void fewestByTheLast() {
+        DrumOfGuilt x = Checks.people(0, 0, 0, 0);
+        x.wrong(2, 1, 8);
+        Checks.due("17 few: the last of four saw the only wrong", x.few(1), 1);
+        Checks.due("17 few: another did none", x.few(2), 0);
     }
 
     private static void hiring() {
@@ -193,6 +221,10 @@ final class BestTest {
         x.wrong(1, 2, 62);
         Checks.due("18 hire: the last of six", x.hire(0, 0), 5);
         Checks.due("18 hire: of a like first, another", x.hire(5, 0), 0);
+        x = Checks.people(0, 47, 42);
+        x.wrong(1, 2, 0);
+        Checks.due("18 hire: of two thieves the one of less more", x.hire(0, 0), 2);
+        Checks.due("18 hire: that thief's more", x.hire(0, 1), 3 * 2 + 2);
     }
 
     private static void lookingAway() {
@@ -244,6 +276,16 @@ final class BestTest {
         Checks.due("19 away: thought of 0, as so", x.away(1), 1500);
         Checks.due("20 undone: thought of 0 with and without", x.undone(0), -1);
         Checks.due("20 undone: thought of 0, as so", x.undone(1), 1500);
+    }
+
+    private static void awayForLittle() {
+        DrumOfGuilt x = Checks.people(0, 0);
+        x.wrong(1, 1, 2);
+        Checks.law(x, "0", "1", "1");
+        Checks.due("19 away: 1 more is more", x.away(0), 1);
+        Checks.due("19 away: 1 more", x.away(1), 1000);
+        Checks.law(x, "0", "0", "1");
+        Checks.due("19 away: as much is no more", x.away(0), -1);
     }
 
     private static void awayOfNobody() {

@@ -16,11 +16,15 @@ final class DuskTest {
         doubtsOfTheLastSeen();
         strokesOfEachDoer();
         lossByTheLastOfOnes();
+        lossByWhoCatches();
         bounds();
         towns();
+        townOfFewWrongs();
+        townOfTwoCaught();
         nights();
         nightOfNobody();
         nightOfAll();
+        nightOfTheLast();
         theLastNight();
     }
 
@@ -75,6 +79,11 @@ final class DuskTest {
                 Checks.due(call, elderBeats(more, weight, "7"), weight > more ? 1 : 0);
             }
         }
+        DrumOfGuilt x = Checks.people(54);
+        x.wrong(1, 4, 0);
+        x.wrong(1, 5, 0);
+        x.wrong(1, 9, 0);
+        Checks.due("13 dusk: strokes of an elder, two of three above more", x.dusk(0, 0), 2);
         Checks.due("13 dusk: strokes of an elder, the text says 0", elderBeats(3, 4, "0"), 1);
         Checks.due("13 dusk: strokes of an elder, the text says 20", elderBeats(4, 4, "20"), 0);
     }
@@ -228,6 +237,18 @@ final class DuskTest {
         Checks.due("13 dusk: loss: a later one", x.dusk(0, 2), 8 + 8);
     }
 
+    /** 1, of pride 20, saw two: what is told of 1, not of another of that number. */
+    private static void lossByWhoCatches() {
+        DrumOfGuilt x = new DrumOfGuilt();
+        x.person(0, 10);
+        x.person(0, 20);
+        x.person(0, 30);
+        x.wrong(1, 2, 2);
+        x.wrong(1, 2, 2);
+        Checks.law(x, "0", "pride", "1");
+        Checks.due("13 dusk: loss: told of who catches, by however many", x.dusk(0, 2), 20);
+    }
+
     private static void bounds() {
         DrumOfGuilt x = Checks.people(0, 0);
         x.wrong(1, 1, 2);
@@ -278,6 +299,36 @@ final class DuskTest {
         Checks.due("13 dusk: 0 doubts", x.dusk(2, 2), 7);
         Checks.due("14 town: what", x.town(4), -2);
         Checks.due("14 town: what below", x.town(-1), -2);
+    }
+
+    /** One wrong among four: the last did it, and nobody else any. */
+    private static void townOfFewWrongs() {
+        DrumOfGuilt x = Checks.people(0, 0, 0, 0);
+        x.wrong(8, 1, 4);
+        Checks.due("14 town: the only one who has any is the last", x.town(1), 3);
+        Checks.due("14 town: all but the last have none", x.town(2), 7);
+        Checks.law(x, "0", "1", "1");
+        Checks.due("14 town: who catches the last", x.town(3), 4);
+    }
+
+    private static void townOfTwoCaught() {
+        DrumOfGuilt x = Checks.people(0, 0, 0);
+        x.wrong(1, 5, 4);
+        x.wrong(2, 4, 4);
+        Checks.law(x, "weight", "1", "1");
+        Checks.due("14 town: 5 are more than 4", x.town(1), 0);
+        Checks.law(x, "0", "1", "1");
+        Checks.due("14 town: who catches two catches anybody", x.town(3), 4);
+        x.wrong(4, 4, 3);
+        Checks.due("14 town: all three catch", x.town(3), 7);
+        x = Checks.people(0, 0, 0);
+        x.wrong(1, 1, 4);
+        x.wrong(2, 5, 1);
+        Checks.law(x, "weight < 2", "1", "1");
+        Checks.due("14 town: each is caught by that one's own beats", x.town(3), 1);
+        x.amend(1);
+        x.wrong(4, 5, 2);
+        Checks.due("14 town: also the last by that one's own", x.town(3), 2);
     }
 
     private static void nights() {
@@ -333,6 +384,14 @@ final class DuskTest {
             x.night();
         }
         Checks.due("15 night: day 400", x.count(2), 400);
+    }
+
+    private static void nightOfTheLast() {
+        DrumOfGuilt x = Checks.people(0, 0, 0, 0);
+        x.wrong(8, 1, 4);
+        Checks.due("15 night: the last strikes once", x.night(), 1);
+        Checks.due("15 night: name of the last", x.told(3, 1), 499);
+        Checks.due("15 night: name of who saw it", x.told(2, 1), 500);
     }
 
     /** Each does one that all others saw: what all lose is told of the evening as it was. */

@@ -12,6 +12,7 @@ final class EveningsTest {
         whichKinds();
         whichMores();
         whichPrides();
+        whichPridesOfAnother();
         whoseWrong();
         whichLaws();
         filming();
@@ -197,6 +198,18 @@ final class EveningsTest {
         Checks.tell(x, 0, 1);
         Checks.due("27 prides: 99 alone", x.prides(0, 0, 0), 1);
         Checks.due("27 prides: 99 is the least", x.prides(0, 0, 1), 99);
+    }
+
+    private static void whichPridesOfAnother() {
+        DrumOfGuilt x = Checks.people(0, 0, 0);
+        x.wrong(3, 1, 0);
+        Checks.law(x, "30 < pride", "1", "1");
+        Checks.tell(x, 2, 1, 1);
+        Checks.due("27 prides: of another than the first: 31 to 99", x.prides(2, 1, 0), 69);
+        Checks.due("27 prides: of another than the first: 31", x.prides(2, 1, 1), 31);
+        Checks.tell(x, 3, 1, 0, 0);
+        Checks.due("27 prides: of another than the first: 0 to 30", x.prides(3, 1, 0), 31);
+        Checks.due("27 prides: of another than the first: 0", x.prides(3, 1, 1), 0);
     }
 
     private static void whoseWrong() {

@@ -99,6 +99,12 @@ final class GuessTest {
         likely(x, 0, 2, 1, 0, 1);
         likely(x, 0, 10, 1, 1, 1);
         likely(x, 0, 10, 3, 1, 2);
+        // A child's 11 is 4 and 7, or 7 and 4; of 0 it is none.
+        likely(x, 1, 11, 0, 1, 2);
+        likely(x, 1, 11, 1, 0, 1);
+        likely(x, 1, 11, 2, 1, 1);
+        likely(x, 2, 3, 1, 3, 4);
+        likely(x, 0, 11, 0, NO, NO);
         likely(x, 0, 1, 0, NO, NO);
         likely(x, 0, 999, 0, NO, NO);
         likely(x, 0, -1, 0, NO, NO);

@@ -10,6 +10,7 @@ final class HostTest {
     static void all() {
         sheets();
         sheetsOfSorts();
+        fortyLaidAnew();
         cellsOfSorts();
         cellsOfAnEmptyRow();
         cells();
@@ -79,6 +80,20 @@ final class HostTest {
         Checks.due("35 sheet: bytes, 40", x.sheet(2, 0, 40), 1);
         Checks.due("35 sheet: shorts, 0", x.sheet(2, 1, 0), 1);
         Checks.due("35 sheet: ints, 1", x.sheet(2, 2, 1), 1);
+    }
+
+    /** Who comes by the last two numbers of forty comes by 0 and 0, not by what stood there ahead of the new row. */
+    private static void fortyLaidAnew() {
+        for (int sort = 0; sort < 3; sort++) {
+            DrumOfGuilt x = new DrumOfGuilt();
+            x.sheet(1, sort, 40);
+            x.cell(1, 38, 17);
+            x.cell(1, 39, 7);
+            x.sheet(1, sort, 40);
+            Checks.due("35 sheet: the last of forty can be read, sort " + sort, x.peopleBy(1, sort, 38, 1), 1);
+            Checks.due("35 sheet: the 39th of forty is 0, sort " + sort, x.told(0, 2), 0);
+            Checks.due("35 sheet: the 40th of forty is 0, sort " + sort, x.told(0, 0), 0);
+        }
     }
 
     /** Who struck 0 is as a sheet tells where its number is 0; people come by a sheet as its numbers are. */

@@ -224,6 +224,25 @@ final class LawTest {
         fault("strokes not 1 < (((((1)))))" + TAIL, 20);
         // A minus ahead of two is none of these.
         stands("strokes (((((1-1)))))" + TAIL);
+        openAheadOfSeconds();
+    }
+
+    /** What is open ahead of a sign is still open behind it. */
+    private static void openAheadOfSeconds() {
+        for (String sign : new String[] {" or ", " and ", "<", "=", "+", "-", "*"}) {
+            String four = "strokes ((((1" + sign;
+            stands(four + "(1)))))" + TAIL);
+            stands(four + "-1))))" + TAIL);
+            String five = "strokes (((((1" + sign;
+            fault(five + "(1))))))" + TAIL, five.length());
+            fault(five + "-1)))))" + TAIL, five.length());
+            fault(five + "1" + sign + "(1))))))" + TAIL, (five + "1" + sign).length() - (sign.matches("[<=]") ? 1 : 0));
+        }
+        stands("strokes ((((1 or not 1))))" + TAIL);
+        stands("strokes ((((1 and not 1))))" + TAIL);
+        fault("strokes (((((1 or not 1)))))" + TAIL, 18);
+        fault("strokes (((((1 and not 1)))))" + TAIL, 19);
+        fault("strokes not not not not not 1 < (1)" + TAIL, 32);
     }
 
     private static void fullTexts() {

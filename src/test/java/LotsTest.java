@@ -17,6 +17,7 @@ final class LotsTest {
         noImage();
         wrongsSinceTheImage();
         imageOfAll();
+        imageOfAnotherLaw();
         nothingElseIsKept();
     }
 
@@ -278,6 +279,23 @@ final class LotsTest {
             }
             Checks.due("34 back: what the law says", x.asks(1, 5, 9), 10);
         }
+    }
+
+    /** The law of the image is not the first one: it is the law again, by its number and by what it says. */
+    private static void imageOfAnotherLaw() {
+        DrumOfGuilt x = Checks.people(0, 0);
+        x.wrong(1, 4, 0);
+        Checks.read(x, "strokes 2;doubts 3;pays 4;");
+        Checks.law(x, "5", "6", "7");
+        x.image();
+        x.force(1);
+        x.back();
+        Checks.due("34 back: the law is the second again", x.count(4), 2);
+        Checks.due("34 back: it says", x.asks(0, 0, 0), 5);
+        Checks.due("34 back: by it one strikes", x.dusk(0, 0), 5);
+        Checks.due("34 back: it was the law", x.force(0), 2);
+        x.back();
+        Checks.due("34 back: again the second", x.count(4), 2);
     }
 
     private static void nothingElseIsKept() {

@@ -225,6 +225,13 @@ final class PeopleTest {
         Checks.due("11 put: the other's name stays", x.told(0, 1), 500);
         Checks.due("11 put: is", x.told(1, 0), 0);
         Checks.due("11 put: is so called", x.told(1, 1), 0);
+        Checks.due("11 put: what the first one's pride was", x.put(0, 0, 7), 50);
+        Checks.due("11 put: what the first one's name was", x.put(0, 1, 8), 500);
+        Checks.due("11 put: what it became", x.put(0, 1, 9), 8);
+        x.person(0, 60);
+        Checks.due("11 put: what the last one's pride was", x.put(2, 0, 5), 60);
+        Checks.due("11 put: the first stays so proud", x.told(0, 0), 7);
+        Checks.due("11 put: the other stays so proud still", x.told(1, 0), 0);
     }
 
     private static void telling() {
